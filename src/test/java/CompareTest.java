@@ -1,0 +1,272 @@
+/**
+ * Runs of chance calls on a TileDesk and on a SlowDesk, which must answer alike. The chance is an own row of numbers,
+ * so that each time the same calls are made. Arguments: how many runs, and the first number of the row.
+ */
+public final class CompareTest {
+    private static final int CALLS = 34;
+
+    private final TileDesk desk = new TileDesk();
+    private final SlowDesk slow = new SlowDesk();
+    private final StringBuilder told = new StringBuilder();
+    private long chance;
+    private int made = 0;
+    private boolean wrong = false;
+
+    private CompareTest(long first) {
+        chance = first;
+    }
+
+    public static void main(String[] args) {
+        int runs = args.length > 0 ? Integer.parseInt(args[0]) : 80;
+        long first = args.length > 1 ? Long.parseLong(args[1]) : 1;
+        int failed = 0;
+        for (int run = 0; run < runs && failed < 5; run++) {
+            CompareTest test = new CompareTest(first * 1000003L + run);
+            test.run(run);
+            failed += test.wrong ? 1 : 0;
+        }
+        System.out.println("CompareTest: " + runs + " runs, " + failed + " of them wrong");
+        if (failed > 0) {
+            System.exit(1);
+        }
+    }
+
+    private int pick(int n) {
+        chance = chance * 6364136223846793005L + 1442695040888963407L;
+        return (int) ((chance >>> 33) % n);
+    }
+
+    private void run(int run) {
+        pick(2);
+        int kind = run % 4;
+        if (kind == 0) {
+            call(pick(2) == 0 ? 8 : 7, pick(100000), 0, 0, 0, 0);
+        }
+        if (pick(2) == 0) {
+            call(14, 0, 1, 0, 0, 0);
+        }
+        if (pick(2) == 0) {
+            call(14, 1, 1, 0, 0, 0);
+        }
+        for (int round = 0; round < 12 && !wrong && made < 480; round++) {
+            if (kind == 1) {
+                build(pick(4), pick(3) == 0 ? 1 : 3);
+            }
+            if (kind == 2) {
+                buildOther(pick(4));
+            }
+            if (kind == 3) {
+                buildRacks();
+            }
+            for (int n = 0; n < 22 && !wrong && made < 500; n++) {
+                chanceCall();
+            }
+        }
+    }
+
+    /** A hand that is done or nearly so, of few rows, with some groups open. */
+    private void build(int h, int rows) {
+        call(12, h, 0, 0, 0, 0);
+        int groups = 4;
+        int open = pick(5) - 2;
+        for (int g = 0; g < groups; g++) {
+            int row = rows == 1 ? h % 3 : pick(4);
+            int sort = 9 * row + pick(row < 3 ? 9 : 7);
+            int kind = row < 3 && sort % 9 <= 6 && pick(3) > 0 ? 1 : pick(8) == 0 && g < open ? 3 : 2;
+            for (int k = 0; k < (kind == 3 ? 4 : 3); k++) {
+                call(6, h, kind == 1 ? sort + k : sort, 0, 0, 0);
+            }
+            if (g < open) {
+                call(11, h, kind, sort, 0, 0);
+            }
+        }
+        int pair = 9 * (rows == 1 ? h % 3 : pick(3)) + pick(9);
+        call(6, h, pair, 0, 0, 0);
+        call(6, h, pair, 0, 0, 0);
+        for (int swaps = pick(4); swaps > 0; swaps--) {
+            call(10, h, heldSort(h), 0, 0, 0);
+            if (swaps > 1) {
+                call(8, h, 0, 0, 0, 0);
+            }
+        }
+    }
+
+    /** A hand that is nearly seven pairs, or nearly outer ones. */
+    private void buildOther(int h) {
+        int[] outer = {0, 8, 9, 17, 18, 26, 27, 28, 29, 30, 31, 32, 33};
+        call(12, h, 0, 0, 0, 0);
+        int what = pick(4);
+        for (int n = 0; n < (what == 0 ? 13 : 7); n++) {
+            int sort = what == 0 ? outer[n] : what == 1 ? outer[pick(13)] : what == 2 ? 27 + n : 9 * h % 27 + pick(9);
+            call(6, h, sort, 0, 0, 0);
+            if (what != 0) {
+                call(6, h, sort, 0, 0, 0);
+            }
+        }
+        if (what == 0) {
+            call(6, h, outer[pick(13)], 0, 0, 0);
+        }
+        if (pick(2) == 0) {
+            call(10, h, heldSort(h), 0, 0, 0);
+        }
+    }
+
+    private void buildRacks() {
+        for (int r = 0; r < 6; r++) {
+            if (pick(3) == 0) {
+                call(0, r, pick(4) - 1, pick(42) - 1, 0, 0);
+            }
+        }
+        for (int n = 0; n < 14; n++) {
+            int[] odd = {-1, 34, 127, 128, 255, 256, 32768, 65535, 65536, -32769, Integer.MIN_VALUE, Integer.MAX_VALUE};
+            call(1, pick(6), pick(12), pick(3) == 0 ? odd[pick(odd.length)] : pick(34), 0, 0);
+        }
+    }
+
+    private int heldSort(int h) {
+        int from = pick(34);
+        for (int k = 0; k < 34; k++) {
+            if (slow.tiles((from + k) % 34, 2 + h) > 0) {
+                return (from + k) % 34;
+            }
+        }
+        return from;
+    }
+
+    /** A number from 0 up, and now and then one that is none. */
+    private int number(int n) {
+        int[] odd = {-1, n, n + 1, Integer.MIN_VALUE, Integer.MAX_VALUE};
+        return pick(40) == 0 ? odd[pick(odd.length)] : pick(n);
+    }
+
+    private void chanceCall() {
+        int which = pick(CALLS + 22);
+        int h = number(4);
+        if (which >= CALLS) {
+            int[] often = {15, 16, 17, 18, 19, 20, 21, 22, 23, 24, 25, 25, 31, 32, 33, 29, 26, 28, 7, 10, 6, 21};
+            which = often[which - CALLS];
+        }
+        if (which == 12 || which == 8 && pick(3) > 0) {
+            return;
+        }
+        if (which == 8 && pick(6) > 0) {
+            which = 26;
+        }
+        int sort = h >= 0 && h < 4 && pick(2) == 0 ? heldSort(h) : number(34);
+        switch (which) {
+            case 0: call(which, number(6), number(4) - 1, number(41), 0, 0); break;
+            case 1: call(which, number(6), number(20), number(300) - 150, 0, 0); break;
+            case 2: call(which, number(6), number(20), number(6), number(20), number(20)); break;
+            case 3: call(which, number(6), number(41), 0, 0, 0); break;
+            case 4: call(which, h, number(6), number(12), number(5), 0); break;
+            case 6: case 10: case 21: case 22: call(which, h, sort, 0, 0, 0); break;
+            case 8: call(which, pick(20) == 0 ? -1 : pick(Integer.MAX_VALUE), 0, 0, 0, 0); break;
+            case 11: call(which, h, 1 + number(3), sort, 0, 0); break;
+            case 13: call(which, number(34), number(10), 0, 0, 0); break;
+            case 16: call(which, h, number(5), number(5), 0, 0); break;
+            case 18: case 19: call(which, h, number(12), 0, 0, 0); break;
+            case 24: call(which, h, number(4), number(5), number(2), 0); break;
+            case 25: call(which, h, 1 + number(2), 0, 0, 0); break;
+            case 27: call(which, h, number(4), 0, 0, 0); break;
+            case 29: call(which, number(10), number(1001), number(11) - 1, 0, 0); break;
+            case 30: if (pick(8) == 0) { call(which, 0, 0, 0, 0, 0); } break;
+            case 33: call(which, h, number(10), 0, 0, 0); break;
+            case 14: call(which, number(2), pick(2), 0, 0, 0); break;
+            case 5: call(which, pick(50) == 0 ? -1 : pick(Integer.MAX_VALUE), 0, 0, 0, 0); break;
+            case 9: call(which, h, number(7), 0, 0, 0); break;
+            default: call(which, h, 0, 0, 0, 0); break;
+        }
+    }
+
+    private void call(int which, int a, int b, int c, int d, int e) {
+        if (wrong || made >= 512) {
+            return;
+        }
+        made++;
+        int answer = ofDesk(which, a, b, c, d, e);
+        int due = ofSlow(which, a, b, c, d, e);
+        told.append(which + "(" + a + "," + b + "," + c + "," + d + "," + e + ") ");
+        if (answer != due) {
+            wrong = true;
+            System.out.println("call " + made + " answered " + answer + ", due is " + due + ", after " + told);
+        }
+    }
+
+    private int ofDesk(int which, int a, int b, int c, int d, int e) {
+        switch (which) {
+            case 0: return desk.rack(a, b, c);
+            case 1: return desk.place(a, b, c);
+            case 2: return desk.copy(a, b, c, d, e);
+            case 3: return desk.told(a, b);
+            case 4: return desk.read(a, b, c, d);
+            case 5: return desk.seed(a);
+            case 6: return desk.take(a, b);
+            case 7: return desk.draw(a);
+            case 8: return desk.deal(a);
+            case 9: return desk.about(a, b);
+            case 10: return desk.discard(a, b);
+            case 11: return desk.open(a, b, c);
+            case 12: return desk.clear(a);
+            case 13: return desk.tiles(a, b);
+            case 14: return desk.count(a, b == 1);
+            case 15: return desk.done(a);
+            case 16: return desk.way(a, b, c);
+            case 17: return desk.distance(a);
+            case 18: return desk.waits(a, b);
+            case 19: return desk.helps(a, b);
+            case 20: return desk.ways(a);
+            case 21: return desk.without(a, b);
+            case 22: return desk.more(a, b);
+            case 23: return desk.best(a);
+            case 24: return desk.lack(a, b, c, d);
+            case 25: return desk.odds(a, b);
+            case 26: return desk.unseen(a);
+            case 27: return desk.alike(a, b);
+            case 28: return desk.best(a);
+            case 29: return desk.rule(a, b, c);
+            case 30: return desk.clearRules();
+            case 31: return desk.worth(a);
+            case 32: return desk.by(a);
+            default: return desk.holds(a, b);
+        }
+    }
+
+    private int ofSlow(int which, int a, int b, int c, int d, int e) {
+        switch (which) {
+            case 0: return slow.rack(a, b, c);
+            case 1: return slow.place(a, b, c);
+            case 2: return slow.copy(a, b, c, d, e);
+            case 3: return slow.told(a, b);
+            case 4: return slow.read(a, b, c, d);
+            case 5: return slow.seed(a);
+            case 6: return slow.take(a, b);
+            case 7: return slow.draw(a);
+            case 8: return slow.deal(a);
+            case 9: return slow.about(a, b);
+            case 10: return slow.discard(a, b);
+            case 11: return slow.open(a, b, c);
+            case 12: return slow.clear(a);
+            case 13: return slow.tiles(a, b);
+            case 14: return slow.count(a, b == 1);
+            case 15: return slow.done(a);
+            case 16: return slow.way(a, b, c);
+            case 17: return slow.distance(a);
+            case 18: return slow.waits(a, b);
+            case 19: return slow.helps(a, b);
+            case 20: return slow.ways(a);
+            case 21: return slow.without(a, b);
+            case 22: return slow.more(a, b);
+            case 23: return slow.best(a);
+            case 24: return slow.lack(a, b, c, d);
+            case 25: return slow.odds(a, b);
+            case 26: return slow.unseen(a);
+            case 27: return slow.alike(a, b);
+            case 28: return slow.best(a);
+            case 29: return slow.rule(a, b, c);
+            case 30: return slow.clearRules();
+            case 31: return slow.worth(a);
+            case 32: return slow.by(a);
+            default: return slow.holds(a, b);
+        }
+    }
+}

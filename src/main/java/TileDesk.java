@@ -337,8 +337,25 @@ public final class TileDesk {
         if (!hands[h].rests()) {
             return NO;
         }
-        countHidden(hands[h]);
-        return d == 1 ? oddsOfOne(hands[h]) : oddsOfTwo(hands[h]);
+        int left = countHidden(hands[h]) - 1;
+        lacks.reckon(hands[h], d);
+        if (lacks.lack > d) {
+            return 0;
+        }
+        if (d == 1) {
+            return lacks.helpingOf(hidden);
+        }
+        lacks.reckon(hands[h], 1);
+        int rows = 0;
+        for (int first = 0; first < Sorts.ALL; first++) {
+            if (hidden[first] > 0) {
+                lacks.change(first, 1);
+                lacks.total();
+                rows += hidden[first] * (lacks.lack == 0 ? left : secondTiles(first));
+                lacks.change(first, -1);
+            }
+        }
+        return rows;
     }
 
     public int unseen(int h) {
@@ -503,34 +520,8 @@ public final class TileDesk {
         return best;
     }
 
-    private int oddsOfOne(Hand hand) {
-        lacks.reckon(hand, 1);
-        return lacks.lack == 1 ? lacks.helpingOf(hidden) : 0;
-    }
-
-    private int oddsOfTwo(Hand hand) {
-        lacks.reckon(hand, 2);
-        if (lacks.lack > 2) {
-            return 0;
-        }
-        lacks.reckon(hand, 1);
-        int rows = 0;
-        for (int sort = 0; sort < Sorts.ALL; sort++) {
-            if (hidden[sort] > 0) {
-                lacks.change(sort, 1);
-                rows += hidden[sort] * secondTiles(sort);
-                lacks.change(sort, -1);
-            }
-        }
-        return rows;
-    }
-
-    /** How many tiles may come second, when a tile of this sort came first, so that the hand is done by then. */
+    /** Behind a first tile that did not make it done: how many may come second that do, the best one being thrown. */
     private int secondTiles(int first) {
-        lacks.total();
-        if (lacks.lack == 0) {
-            return Sorts.sum(hidden) - 1;
-        }
         if (lacks.lack > 1) {
             return 0;
         }
@@ -1023,14 +1014,12 @@ public final class TileDesk {
     /**
      * The lack of a hand, and which sorts make it less. Each row is worked out by itself: for g groups and p pairs (a
      * lane, 2 g + p) the fewest tiles that are to come, and the sorts of those that may be among them. Then the lanes
-     * of the rows are added up. A lane is a number: the tiles above, a bit for each of the sorts below.
+     * of the rows are added up. A lane's value is a number: the tiles above, a bit for each of the sorts below.
      */
     private static final class Lacks {
         static final int NO_LIMIT = 14;
-        private static final int LANES = 10, SHAPES = 9;
-        private static final int ROW_BITS = 9, NOTHING = 1 << 20;
-        private static final int ALL_BITS = 34;
-        private static final long NOWHERE = 1L << 40;
+        private static final int LANES = 10, SHAPES = 9, ROW_BITS = 9, SORT_BITS = 34;
+        private static final long NOWHERE = 1L << 40, SORT_MASK = (1L << SORT_BITS) - 1;
         private static final int KEPT_BITS = 9, KEPT = 1 << KEPT_BITS;
         private static final long SPREADER = 0x9E3779B97F4A7C15L;
         private static final int UNREACHED = 99;
@@ -1038,14 +1027,13 @@ public final class TileDesk {
         private final Others others;
         final int[] held = new int[Sorts.ALL];
         private final int[] laid = new int[Sorts.ALL];
-        private final int[] lanes = new int[Sorts.ROWS * LANES];
-        private final int[] now = new int[SHAPES * LANES];
-        private final int[] next = new int[SHAPES * LANES];
+        private final long[] lanes = new long[Sorts.ROWS * LANES];
+        private final long[] now = new long[SHAPES * LANES];
+        private final long[] next = new long[SHAPES * LANES];
         private final long[] sums = new long[LANES];
-        private final long[] nextSums = new long[LANES];
         // Rows are asked for again and again, so that what was worked out is kept, by all that it hangs on.
         private final long[] keptKeys = new long[KEPT];
-        private final int[] keptLanes = new int[KEPT * LANES];
+        private final long[] keptLanes = new long[KEPT * LANES];
         private int limit = NO_LIMIT;
         private int wanted = 0;
         /** What total() found last; a lack above the limit is not told. */
@@ -1075,8 +1063,8 @@ public final class TileDesk {
         int ofRow(Hand hand, int row, int g, int p) {
             look(hand, NO_LIMIT);
             workOut(row);
-            int lane = lanes[row * LANES + 2 * g + p];
-            return lane == NOTHING ? NONE : lane >> ROW_BITS;
+            long value = lanes[row * LANES + 2 * g + p];
+            return value == NOWHERE ? NONE : tilesOf(value);
         }
 
         private void look(Hand hand, int most) {
@@ -1097,7 +1085,7 @@ public final class TileDesk {
             lack = UNREACHED;
             helpers = 0;
             if (found != NOWHERE) {
-                offer((int) (found >> ALL_BITS), found & (1L << ALL_BITS) - 1);
+                offer(tilesOf(found), found & SORT_MASK);
             }
             boolean noneOpen = wanted == Hand.WANTED;
             if (noneOpen && others.sevenCounts) {
@@ -1145,28 +1133,32 @@ public final class TileDesk {
             }
         }
 
-        private void addRow(int row) {
-            Arrays.fill(nextSums, NOWHERE);
-            for (int a = 0; a < LANES; a++) {
-                for (int b = 0; b < LANES && sums[a] != NOWHERE; b++) {
-                    int lane = lanes[row * LANES + b];
-                    boolean twoPairs = (a & b & 1) == 1;
-                    if (lane != NOTHING && !twoPairs && a + b < LANES) {
-                        long tiles = (sums[a] >> ALL_BITS) + (lane >> ROW_BITS);
-                        long sorts = sums[a] & (1L << ALL_BITS) - 1 | (lane & (1L << ROW_BITS) - 1) << ROW_BITS * row;
-                        mergeSum(a + b, tiles, sorts);
-                    }
-                }
-            }
-            System.arraycopy(nextSums, 0, sums, 0, LANES);
+        private static int tilesOf(long value) {
+            return (int) (value >> SORT_BITS);
         }
 
-        private void mergeSum(int at, long tiles, long sorts) {
-            long old = nextSums[at] >> ALL_BITS;
-            if (tiles <= limit && tiles < old) {
-                nextSums[at] = tiles << ALL_BITS | sorts;
-            } else if (tiles == old) {
-                nextSums[at] |= sorts;
+        /** Of values alike in tiles the sorts of both may be among these. */
+        private void merge(long[] into, int at, long value) {
+            long more = (value >> SORT_BITS) - (into[at] >> SORT_BITS);
+            if (value >> SORT_BITS <= limit && more <= 0) {
+                into[at] = more < 0 ? value : into[at] | value;
+            }
+        }
+
+        /** Goes from the highest lane down, as each is made of itself and of lower ones (lane 0 adds nothing). */
+        private void addRow(int row) {
+            int top = 2 * wanted + 1;
+            // Behind the last row none but the lane that is wanted is asked for.
+            int lowest = row == Sorts.LAST_ROW ? top : 0;
+            for (int to = top; to >= lowest; to--) {
+                for (int lane = 1; lane <= to; lane++) {
+                    boolean twoPairs = (to - lane & lane & 1) == 1;
+                    if (!twoPairs) {
+                        long value = lanes[row * LANES + lane];
+                        long sorts = (value & SORT_MASK) << ROW_BITS * row;
+                        merge(sums, to, sums[to - lane] + (value & ~SORT_MASK) + sorts);
+                    }
+                }
             }
         }
 
@@ -1195,13 +1187,13 @@ public final class TileDesk {
          * one before that; more than two alike are as good as threes, so that 2 is the most.
          */
         private void goThrough(int row) {
-            Arrays.fill(now, NOTHING);
+            Arrays.fill(now, NOWHERE);
             now[0] = 0;
             for (int i = 0; i < Sorts.lengthOf(row); i++) {
-                Arrays.fill(next, NOTHING);
+                Arrays.fill(next, NOWHERE);
                 int sort = row * Sorts.ROW_LENGTH + i;
                 for (int at = 0; at < SHAPES * LANES; at++) {
-                    if (now[at] != NOTHING) {
+                    if (now[at] != NOWHERE) {
                         spread(at / LANES, at % LANES, now[at], sort);
                     }
                 }
@@ -1210,31 +1202,21 @@ public final class TileDesk {
         }
 
         /** Goes on from a lane by every use of a sort: runs from it, and a pair (1), a three (2) or neither (0). */
-        private void spread(int shape, int lane, int value, int sort) {
-            int a = shape / 3;
-            int b = shape % 3;
+        private void spread(int shape, int lane, long value, int sort) {
+            int begun = shape / 3 + shape % 3;
             int room = Sorts.OF_EACH - laid[sort];
             int mostRuns = Sorts.startsRun(sort) ? 2 : 0;
             for (int runs = 0; runs <= mostRuns; runs++) {
                 for (int extra = 0; extra <= 2; extra++) {
-                    int use = a + b + runs + (extra == 0 ? 0 : extra + 1);
+                    int use = begun + runs + (extra == 0 ? 0 : extra + 1);
                     int to = lane + 2 * runs + extra;
                     boolean twoPairs = (lane & extra & 1) == 1;
                     if (use <= room && to < LANES && !twoPairs) {
                         int come = Math.max(0, use - held[sort]);
-                        int sorts = value & (1 << ROW_BITS) - 1 | (come > 0 ? 1 << sort % Sorts.ROW_LENGTH : 0);
-                        merge((3 * runs + a) * LANES + to, (value >> ROW_BITS) + come, sorts);
+                        long bit = come > 0 ? 1L << sort % Sorts.ROW_LENGTH : 0;
+                        merge(next, (3 * runs + shape / 3) * LANES + to, value + ((long) come << SORT_BITS) | bit);
                     }
                 }
-            }
-        }
-
-        private void merge(int at, int tiles, int sorts) {
-            int old = next[at] >> ROW_BITS;
-            if (tiles <= limit && tiles < old) {
-                next[at] = tiles << ROW_BITS | sorts;
-            } else if (tiles == old) {
-                next[at] |= sorts;
             }
         }
     }

@@ -1,0 +1,58 @@
+/** Counts the answers that are not the ones that are due, and makes hands for the tests. */
+final class Due {
+    static final int BAD = -1, NO = -2, NONE = -3, FULL = -4;
+    static final int NULL = -11, INDEX = -12, SIZE = -13, STORE = -14, SORT = -15, FIVE = -16, MANY = -17;
+    /** Numbers that are no hand, no rack and so on, whatever the bound. */
+    static final int[] NOWHERE = {-1, -2, Integer.MIN_VALUE, Integer.MAX_VALUE, 1 << 30};
+
+    private final String name;
+    private int asked = 0;
+    private int wrong = 0;
+
+    Due(String test) {
+        name = test;
+    }
+
+    void is(String call, int got, int want) {
+        asked++;
+        if (got != want) {
+            wrong++;
+            System.out.println(name + ": " + call + " answered " + got + ", due is " + want);
+        }
+    }
+
+    void end() {
+        System.out.println(name + ": " + asked + " answers, " + wrong + " of them wrong");
+        if (wrong > 0) {
+            System.exit(1);
+        }
+    }
+
+    /** A new desk of which hand 0 holds these. */
+    static TileDesk holding(int... sorts) {
+        TileDesk desk = new TileDesk();
+        hold(desk, 0, sorts);
+        return desk;
+    }
+
+    static void hold(TileDesk desk, int h, int... sorts) {
+        for (int sort : sorts) {
+            if (desk.take(h, sort) < 0) {
+                throw new IllegalStateException("hand " + h + " takes no " + sort);
+            }
+        }
+    }
+
+    /** A hand takes the tiles of a group and lays it open. */
+    static void lay(TileDesk desk, int h, int code) {
+        int sort = code % 100;
+        switch (code / 100) {
+            case 1: hold(desk, h, sort, sort + 1, sort + 2); break;
+            case 2: hold(desk, h, sort, sort, sort); break;
+            default: hold(desk, h, sort, sort, sort, sort); break;
+        }
+        if (desk.open(h, code / 100, sort) < 0) {
+            throw new IllegalStateException("hand " + h + " lays no " + code);
+        }
+    }
+}

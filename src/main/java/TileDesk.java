@@ -593,9 +593,9 @@ public final class TileDesk {
             return code % CODE;
         }
 
-        /** How many tiles a pair, a three or a four has. */
+        /** How many tiles a three or a four has. */
         static int tilesAlike(int kind) {
-            return kind == PAIR ? 2 : kind + 1;
+            return kind + 1;
         }
 
         static boolean hasOuter(int code) {
@@ -1173,13 +1173,14 @@ public final class TileDesk {
             System.arraycopy(keptLanes, at * LANES, lanes, row * LANES, LANES);
         }
 
+        /** A key of the last row has two places less, so that it is none of another row. */
         private long keyOf(int row) {
             long key = limit;
             for (int i = 0; i < Sorts.lengthOf(row); i++) {
                 int sort = row * Sorts.ROW_LENGTH + i;
                 key = key * 25 + held[sort] * 5 + laid[sort];
             }
-            return 2 * key + (row < Sorts.LAST_ROW ? 0 : 1);
+            return key;
         }
 
         /**

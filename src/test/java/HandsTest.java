@@ -282,6 +282,15 @@ public final class HandsTest {
         return sorts;
     }
 
+    private static int isAmong(int sort, int[] sorts) {
+        for (int one : sorts) {
+            if (one == sort) {
+                return 1;
+            }
+        }
+        return 0;
+    }
+
     private static void promise21() {
         sorts("nine gates", waiting(Due.holding(NINE_GATES), 9), 0, 1, 2, 3, 4, 5, 6, 7, 8);
         sorts("one", waiting(Due.holding(WAITS_FOR_33), 1), 33);
@@ -356,11 +365,21 @@ public final class HandsTest {
         due.is("five pairs and a three", pairs.distance(0), 1);
         for (int i = 0; i < 27; i++) {
             boolean held = pairs.tiles(i, 2) > 0;
-            boolean among = false;
-            for (int k = 0; k < 34; k++) {
-                among = among || pairs.helps(0, k) == i;
-            }
-            due.is("one that is unlike, sort " + i, among ? 1 : 0, held ? 0 : 1);
+            due.is("one that is unlike, sort " + i, isAmong(i, helping(pairs, 34)), held ? 0 : 1);
+        }
+        TileDesk three = Due.holding(0, 0, 0, 4, 4, 4, 10, 10, 20, 20, 30, 30, 33);
+        sorts("two of three pairs are to be threes", helping(three, 3), 10, 20, 30);
+        TileDesk waits = Due.holding(WAITS_FOR_33);
+        waits.count(SEVEN, true);
+        waits.count(OUTER, true);
+        sorts("others that count are farther", helping(waits, 1), 33);
+        TileDesk either = Due.holding(1, 1, 2, 2, 3, 3, 10, 10, 12, 15, 16, 22, 33);
+        for (int counts = 0; counts <= 1; counts++) {
+            either.count(SEVEN, counts == 1);
+            due.is("as far by ways as by seven pairs", either.distance(0), 2);
+            due.is("helps by ways", isAmong(14, helping(either, 34)), 1);
+            due.is("helps by seven pairs alone", isAmong(15, helping(either, 34)), counts);
+            due.is("helps by neither", isAmong(31, helping(either, 34)), 0);
         }
         TileDesk outer = Due.holding(0, 8, 9, 17, 18, 26, 27, 28, 29, 30, 31, 5, 14);
         outer.count(OUTER, true);
@@ -537,6 +556,10 @@ public final class HandsTest {
         // 121 not seen. 33 first: 120. A sort of which 4 are left (29 of these: not 33, not the four open ones): then 3.
         // One of which 1 is left (4 sorts): then the 33.
         due.is("the best one is kept", open.odds(0, 2), 120 + 116 * 3 + 4);
+        // None left of 33: behind one of the four sorts nothing is left to come of either.
+        Due.hold(open, 1, 33);
+        open.discard(1, 33);
+        due.is("none is left to wait for", open.odds(0, 2), 116 * 3);
         // 19 or 22 (8 tiles), then for a pair 30 or 31, whichever is kept (3 left); or 30, 31 (6 tiles), then 19 or 22.
         TileDesk one = Due.holding(9, 10, 11, 20, 21, 27, 27, 27, 28, 28, 28, 30, 31);
         due.is("at 1", one.odds(0, 2), 8 * 3 + 6 * 8);
@@ -593,6 +616,11 @@ public final class HandsTest {
         due.is("of two rows one", alike(new int[] {0, 1, 9, 11}, new int[] {0, 1, 9, 10}), 0);
         due.is("in one row or two", alike(new int[] {0, 8}, new int[] {0, 17}), 0);
         due.is("none held", alike(new int[0], new int[0]), 1);
+        due.is("both ends or one", alike(new int[] {0, 8}, new int[] {0}), 0);
+        due.is("three of row 3, or two", alike(new int[] {27, 28, 29}, new int[] {30, 30}), 0);
+        due.is("six of row 3, or three", alike(new int[] {27, 28, 29, 30, 31, 32}, new int[] {27, 28, 28}), 0);
+        due.is("a four and a pair of row 3, or two threes",
+            alike(new int[] {27, 27, 27, 27, 33, 33}, new int[] {28, 28, 28, 29, 29, 29}), 0);
         due.is("a row twice", alike(new int[] {0, 9, 19}, new int[] {1, 9, 19}), 0);
         TileDesk open = Due.holding(5);
         Due.lay(open, 0, 101);

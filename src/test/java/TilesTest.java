@@ -224,11 +224,11 @@ public final class TilesTest {
     }
 
     private static void promise12Refusals() {
-        TileDesk desk = Due.holding(7, 8, 9, 27, 28, 29, 5, 5, 0, 2, 16, 17, 18);
+        TileDesk desk = Due.holding(7, 8, 9, 27, 28, 29, 5, 5, 0, 2, 16, 21, 22);
         for (int sort : new int[] {7, 8, 16, 17, 25, 26, 27, 31, 33}) {
             due.is("a run that is none, from " + sort, desk.open(0, 1, sort), BAD);
         }
-        for (int sort : new int[] {0, 6, 9, 15, 24}) {
+        for (int sort : new int[] {0, 6, 9, 15, 20, 21, 24}) {
             due.is("a run that is not held, from " + sort, desk.open(0, 1, sort), NO);
         }
         due.is("two are no three", desk.open(0, 2, 5), NO);
@@ -251,15 +251,17 @@ public final class TilesTest {
     }
 
     private static void promise13() {
-        TileDesk desk = Due.holding(1, 1, 2);
+        TileDesk desk = Due.holding(0, 1, 1, 2, 33);
         Due.lay(desk, 0, 310);
         Due.lay(desk, 1, 203);
         desk.discard(0, 2);
-        due.is("clear", desk.clear(0), 6);
+        due.is("clear", desk.clear(0), 8);
         due.is("the size", desk.about(0, 0), 0);
         due.is("groups", desk.about(0, 2), 0);
         due.is("codes", desk.about(0, 3), NONE);
+        due.is("held ones go back", desk.tiles(0, WALL), 4);
         due.is("held ones go back", desk.tiles(1, WALL), 4);
+        due.is("held ones go back", desk.tiles(33, WALL), 4);
         due.is("open ones go back", desk.tiles(10, WALL), 4);
         due.is("no open ones", desk.tiles(10, OPEN), 0);
         due.is("thrown ones stay", desk.tiles(2, THROWN), 1);

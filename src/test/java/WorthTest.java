@@ -204,6 +204,12 @@ public final class WorthTest {
         TileDesk last = Due.holding(27, 27, 28, 28, 29, 29, 30, 30, 31, 31, 32, 32, 33, 33);
         last.count(0, true);
         hold("seven pairs of row 3", last, 2, 3, 4, 5, 8);
+        TileDesk two = Due.holding(1, 1, 2, 2, 4, 4, 5, 5, 7, 7, 10, 10, 13, 13);
+        two.count(0, true);
+        hold("seven pairs of two rows", two, 5, 8);
+        TileDesk first = Due.holding(0, 0, 9, 9, 10, 10, 12, 12, 13, 13, 15, 15, 17, 17);
+        first.count(0, true);
+        hold("seven pairs of a row but for one", first, 5, 8);
         TileDesk one = Due.holding(0, 0, 8, 8, 9, 9, 17, 17, 18, 18, 26, 26, 25, 25);
         one.count(0, true);
         hold("seven pairs, all but one outer", one, 5, 8);

@@ -25,6 +25,7 @@ public final class HandsTest {
         promise25();
         promise26();
         promise26None();
+        promise26OfRowsOneAfterTheOther();
         promise27();
         promise27OfTwo();
         promise28();
@@ -511,6 +512,23 @@ public final class HandsTest {
         due.is("two threes", runs.lack(0, 0, 2, 0), 4);
         Due.hold(runs, 0, 6, 6, 6);
         due.is("a three beside an open run", runs.lack(0, 0, 1, 0), 0);
+    }
+
+    /** Rows that differ but in what is held and what is open, of one desk, one after the other. */
+    private static void promise26OfRowsOneAfterTheOther() {
+        TileDesk desk = Due.holding(5, 5, 5, 24);
+        Due.lay(desk, 1, 214);
+        Due.lay(desk, 2, 315);
+        due.is("three held", desk.lack(0, 0, 1, 0), 0);
+        due.is("three open", desk.lack(1, 1, 1, 0), 3);
+        due.is("one held", desk.lack(0, 2, 0, 1), 1);
+        due.is("four open", desk.lack(2, 1, 0, 1), 2);
+        due.is("none held", desk.lack(3, 0, 1, 0), 3);
+        due.is("three held again", desk.lack(0, 0, 1, 0), 0);
+        Due.lay(desk, 1, 327);
+        due.is("row 3, none held", desk.lack(0, 3, 4, 0), 12);
+        due.is("row 3, a four open", desk.lack(1, 3, 4, 0), 12);
+        due.is("row 0 then", desk.lack(1, 0, 4, 1), 14);
     }
 
     private static void promise27() {

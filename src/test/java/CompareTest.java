@@ -19,7 +19,7 @@ public final class CompareTest {
     }
 
     public static void main(String[] args) {
-        int runs = args.length > 0 ? Integer.parseInt(args[0]) : 80;
+        int runs = args.length > 0 ? Integer.parseInt(args[0]) : 120;
         long first = args.length > 1 ? Long.parseLong(args[1]) : 1;
         int failed = 0;
         for (int run = 0; run < runs && failed < 5; run++) {
@@ -40,8 +40,8 @@ public final class CompareTest {
 
     private void run(int run) {
         pick(2);
-        int kind = run % 4;
-        oddOnes = run % 10 == 9 ? 3 : 40;
+        int kind = run % 6;
+        oddOnes = run % 11 == 9 ? 3 : 40;
         if (kind == 0) {
             call(pick(2) == 0 ? 8 : 7, pick(100000), 0, 0, 0, 0);
         }
@@ -60,6 +60,13 @@ public final class CompareTest {
             }
             if (kind == 3) {
                 buildRacks();
+            }
+            if (kind == 4) {
+                buildDense(round % 4);
+                askAll(round % 4);
+            }
+            if (kind == 5) {
+                buildAlike();
             }
             for (int n = 0; n < 22 && !wrong && made < 500; n++) {
                 chanceCall();
@@ -124,6 +131,74 @@ public final class CompareTest {
             int[] odd = {-1, 34, 127, 128, 255, 256, 32768, 65535, 65536, -32769, Integer.MIN_VALUE, Integer.MAX_VALUE};
             call(1, pick(6), pick(12), pick(3) == 0 ? odd[pick(odd.length)] : pick(34), 0, 0);
         }
+    }
+
+    /** A hand that is done, of groups close together, so that there may be more ways than one. */
+    private void buildDense(int h) {
+        call(12, h, 0, 0, 0, 0);
+        int from = 9 * pick(3) + pick(6);
+        int open = pick(3) == 0 ? pick(4) : 0;
+        int runs = pick(3);
+        for (int g = 0; g < 4; g++) {
+            boolean run = runs == 2 || runs == 1 && pick(2) == 0;
+            int sort = pick(6) == 0 ? 27 + pick(7) : Math.min(from + pick(4), from / 9 * 9 + (run ? 6 : 8));
+            for (int k = 0; k < 3; k++) {
+                call(6, h, run && sort < 27 ? sort + k : sort, 0, 0, 0);
+            }
+            if (g < open) {
+                call(11, h, run && sort < 27 ? 1 : 2, sort, 0, 0);
+            }
+        }
+        int pair = Math.min(from + pick(5), from / 9 * 9 + 8);
+        call(6, h, pair, 0, 0, 0);
+        call(6, h, pair, 0, 0, 0);
+    }
+
+    private void askAll(int h) {
+        for (int n = pick(4); n > 0; n--) {
+            call(29, pick(10), pick(30), pick(11) - 1, 0, 0);
+        }
+        for (int i = 0; i < 3; i++) {
+            for (int k = 0; k < 5; k++) {
+                call(16, h, i, k, 0, 0);
+            }
+        }
+        for (int condition = 0; condition < 10; condition++) {
+            call(33, h, condition, 0, 0, 0);
+        }
+        for (int which : new int[] {15, 20, 31, 32, 17, 23}) {
+            call(which, h, 0, 0, 0, 0);
+        }
+        call(24, h, pick(4), pick(5), pick(2), 0);
+        call(10, h, heldSort(h), 0, 0, 0);
+        for (int i = 0; i < 4; i++) {
+            call(18, h, i, 0, 0, 0);
+        }
+        call(25, h, 1, 0, 0, 0);
+        call(25, h, 2, 0, 0, 0);
+    }
+
+    /** Two hands of which the one is the other with its rows turned and in another order, now and then but for a tile. */
+    private void buildAlike() {
+        int[][] orders = {{0, 1, 2}, {0, 2, 1}, {1, 0, 2}, {1, 2, 0}, {2, 0, 1}, {2, 1, 0}};
+        int[] order = orders[pick(6)];
+        int turned = pick(8);
+        int moved = pick(7);
+        call(12, 0, 0, 0, 0, 0);
+        call(12, 1, 0, 0, 0, 0);
+        for (int n = pick(9); n > 0; n--) {
+            int sort = pick(34);
+            int at = (turned >> sort / 9 & 1) == 1 ? 8 - sort % 9 : sort % 9;
+            int other = sort < 27 ? 9 * order[sort / 9] + at : 27 + (sort - 27 + moved) % 7;
+            for (int times = 1 + pick(2); times > 0; times--) {
+                call(6, 0, sort, 0, 0, 0);
+                call(6, 1, n == 1 && pick(5) == 0 ? pick(34) : other, 0, 0, 0);
+            }
+        }
+        call(27, 0, 1, 0, 0, 0);
+        call(27, 1, 0, 0, 0, 0);
+        call(11, 0, 2, heldSort(0), 0, 0);
+        call(24, 0, 3, pick(5), pick(2), 0);
     }
 
     private int heldSort(int h) {

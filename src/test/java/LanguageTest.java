@@ -24,6 +24,7 @@ public final class LanguageTest {
         imports(code);
         statics(code);
         face(code);
+        names();
         lengths(code);
         due.end();
     }
@@ -56,6 +57,21 @@ public final class LanguageTest {
             int marks = field.getModifiers();
             boolean hidden = java.lang.reflect.Modifier.isPrivate(marks);
             due.is("public or private: " + field, hidden || java.lang.reflect.Modifier.isPublic(marks) ? 1 : 0, 1);
+        }
+    }
+
+    /** No call of a class inside bears the name of one of the face. */
+    private static void names() {
+        java.util.Set<String> face = new java.util.TreeSet<>();
+        for (java.lang.reflect.Method method : TileDesk.class.getMethods()) {
+            face.add(method.getName());
+        }
+        due.is("classes inside", TileDesk.class.getDeclaredClasses().length > 11 ? 1 : 0, 0);
+        for (Class<?> inside : TileDesk.class.getDeclaredClasses()) {
+            due.is("static: " + inside, java.lang.reflect.Modifier.isStatic(inside.getModifiers()) ? 1 : 0, 1);
+            for (java.lang.reflect.Method method : inside.getDeclaredMethods()) {
+                due.is("a name of the face: " + method, face.contains(method.getName()) ? 1 : 0, 0);
+            }
         }
     }
 

@@ -3,16 +3,12 @@
  * so that each time the same calls are made. Arguments: how many runs, and the first number of the row.
  */
 public final class CompareTest {
-    private static final int CALLS = 34;
+    private static final int CALLS = Both.CALLS.length;
 
-    private final TileDesk desk = new TileDesk();
-    private final SlowDesk slow = new SlowDesk();
-    private final StringBuilder told = new StringBuilder();
+    private final Both both = new Both();
     private long chance;
     /** Of so many numbers one is none that is told. */
     private int oddOnes = 40;
-    private int made = 0;
-    private boolean wrong = false;
 
     private CompareTest(long first) {
         chance = first;
@@ -25,7 +21,7 @@ public final class CompareTest {
         for (int run = 0; run < runs && failed < 5; run++) {
             CompareTest test = new CompareTest(first * 1000003L + run);
             test.run(run);
-            failed += test.wrong ? 1 : 0;
+            failed += test.both.wrong ? 1 : 0;
         }
         System.out.println("CompareTest: " + runs + " runs, " + failed + " of them wrong");
         if (failed > 0) {
@@ -51,7 +47,7 @@ public final class CompareTest {
         if (pick(2) == 0) {
             call(14, 1, 1, 0, 0, 0);
         }
-        for (int round = 0; round < 12 && !wrong && made < 480; round++) {
+        for (int round = 0; round < 12 && !both.wrong && both.made < 480; round++) {
             if (kind == 1) {
                 build(pick(4), pick(3) == 0 ? 1 : 3);
             }
@@ -68,7 +64,7 @@ public final class CompareTest {
             if (kind == 5) {
                 buildAlike();
             }
-            for (int n = 0; n < 22 && !wrong && made < 500; n++) {
+            for (int n = 0; n < 22 && !both.wrong && both.made < 500; n++) {
                 chanceCall();
             }
         }
@@ -204,7 +200,7 @@ public final class CompareTest {
     private int heldSort(int h) {
         int from = pick(34);
         for (int k = 0; k < 34; k++) {
-            if (slow.tiles((from + k) % 34, 2 + h) > 0) {
+            if (both.slow.tiles((from + k) % 34, 2 + h) > 0) {
                 return (from + k) % 34;
             }
         }
@@ -257,94 +253,6 @@ public final class CompareTest {
     }
 
     private void call(int which, int a, int b, int c, int d, int e) {
-        if (wrong || made >= 512) {
-            return;
-        }
-        made++;
-        int answer = ofDesk(which, a, b, c, d, e);
-        int due = ofSlow(which, a, b, c, d, e);
-        told.append(which + "(" + a + "," + b + "," + c + "," + d + "," + e + ") ");
-        if (answer != due) {
-            wrong = true;
-            System.out.println("call " + made + " answered " + answer + ", due is " + due + ", after " + told);
-        }
-    }
-
-    private int ofDesk(int which, int a, int b, int c, int d, int e) {
-        switch (which) {
-            case 0: return desk.rack(a, b, c);
-            case 1: return desk.place(a, b, c);
-            case 2: return desk.copy(a, b, c, d, e);
-            case 3: return desk.told(a, b);
-            case 4: return desk.read(a, b, c, d);
-            case 5: return desk.seed(a);
-            case 6: return desk.take(a, b);
-            case 7: return desk.draw(a);
-            case 8: return desk.deal(a);
-            case 9: return desk.about(a, b);
-            case 10: return desk.discard(a, b);
-            case 11: return desk.open(a, b, c);
-            case 12: return desk.clear(a);
-            case 13: return desk.tiles(a, b);
-            case 14: return desk.count(a, b == 1);
-            case 15: return desk.done(a);
-            case 16: return desk.way(a, b, c);
-            case 17: return desk.distance(a);
-            case 18: return desk.waits(a, b);
-            case 19: return desk.helps(a, b);
-            case 20: return desk.ways(a);
-            case 21: return desk.without(a, b);
-            case 22: return desk.more(a, b);
-            case 23: return desk.best(a);
-            case 24: return desk.lack(a, b, c, d);
-            case 25: return desk.odds(a, b);
-            case 26: return desk.unseen(a);
-            case 27: return desk.alike(a, b);
-            case 28: return desk.best(a);
-            case 29: return desk.rule(a, b, c);
-            case 30: return desk.clearRules();
-            case 31: return desk.worth(a);
-            case 32: return desk.by(a);
-            default: return desk.holds(a, b);
-        }
-    }
-
-    private int ofSlow(int which, int a, int b, int c, int d, int e) {
-        switch (which) {
-            case 0: return slow.rack(a, b, c);
-            case 1: return slow.place(a, b, c);
-            case 2: return slow.copy(a, b, c, d, e);
-            case 3: return slow.told(a, b);
-            case 4: return slow.read(a, b, c, d);
-            case 5: return slow.seed(a);
-            case 6: return slow.take(a, b);
-            case 7: return slow.draw(a);
-            case 8: return slow.deal(a);
-            case 9: return slow.about(a, b);
-            case 10: return slow.discard(a, b);
-            case 11: return slow.open(a, b, c);
-            case 12: return slow.clear(a);
-            case 13: return slow.tiles(a, b);
-            case 14: return slow.count(a, b == 1);
-            case 15: return slow.done(a);
-            case 16: return slow.way(a, b, c);
-            case 17: return slow.distance(a);
-            case 18: return slow.waits(a, b);
-            case 19: return slow.helps(a, b);
-            case 20: return slow.ways(a);
-            case 21: return slow.without(a, b);
-            case 22: return slow.more(a, b);
-            case 23: return slow.best(a);
-            case 24: return slow.lack(a, b, c, d);
-            case 25: return slow.odds(a, b);
-            case 26: return slow.unseen(a);
-            case 27: return slow.alike(a, b);
-            case 28: return slow.best(a);
-            case 29: return slow.rule(a, b, c);
-            case 30: return slow.clearRules();
-            case 31: return slow.worth(a);
-            case 32: return slow.by(a);
-            default: return slow.holds(a, b);
-        }
+        both.call(which, a, b, c, d, e);
     }
 }

@@ -364,9 +364,10 @@ public final class HandsTest {
         TileDesk pairs = Due.holding(1, 1, 4, 4, 10, 10, 13, 13, 16, 16, 31, 31, 31);
         pairs.count(SEVEN, true);
         due.is("five pairs and a three", pairs.distance(0), 1);
+        int[] helping = helping(pairs, 34);
         for (int i = 0; i < 27; i++) {
             boolean held = pairs.tiles(i, 2) > 0;
-            due.is("one that is unlike, sort " + i, isAmong(i, helping(pairs, 34)), held ? 0 : 1);
+            due.is("one that is unlike, sort " + i, isAmong(i, helping), held ? 0 : 1);
         }
         TileDesk three = Due.holding(0, 0, 0, 4, 4, 4, 10, 10, 20, 20, 30, 30, 33);
         sorts("two of three pairs are to be threes", helping(three, 3), 10, 20, 30);

@@ -26,7 +26,7 @@ public final class RoomTest {
 
     private static int calls(TileDesk desk) {
         int n = 0;
-        for (int round = 0; round < 9; round++) {
+        for (int round = 0; round < 5; round++) {
             n += change(desk, round);
             for (int h = 0; h < 4; h++) {
                 n += ask(desk, h);

@@ -10,6 +10,8 @@ final class Due {
     /** Numbers that are no hand, no rack and so on, whatever the bound. */
     static final int[] NOWHERE = {-1, -2, Integer.MIN_VALUE, Integer.MAX_VALUE, 1 << 30};
     static final int LEAST = Integer.MIN_VALUE, GREATEST = Integer.MAX_VALUE;
+    static final int[] NO_HANDS = {-1, 4, 5, LEAST, GREATEST};
+    static final int[] NO_SORTS = {-1, 34, 35, 99, LEAST, GREATEST};
 
     private final String name;
     private String document = null;

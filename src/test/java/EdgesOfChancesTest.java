@@ -1,8 +1,10 @@
+import java.util.ArrayList;
+import java.util.List;
+
 /** The boundary cases of promises 26 to 29, sentence by sentence of the document. */
 public final class EdgesOfChancesTest {
     private static final Due due = new Due("EdgesOfChancesTest");
     private static final int BAD = Due.BAD, NO = Due.NO, NONE = Due.NONE, LEAST = Due.LEAST, GREATEST = Due.GREATEST;
-    private static final int[] NO_HANDS = {-1, 4, 5, LEAST, GREATEST};
 
     public static void main(String[] args) {
         lackOfNothing();
@@ -29,6 +31,7 @@ public final class EdgesOfChancesTest {
         alikeTurned();
         alikeInAnotherOrder();
         alikeOfRow3();
+        alikeOfAllThatRow3MayBe();
         alikeButForOne();
         alikeHeldAlone();
         alikeBad();
@@ -155,7 +158,7 @@ public final class EdgesOfChancesTest {
     private static void lackBad() {
         due.sentence("NONE: there is no way to have them. BAD.");
         TileDesk desk = Due.holding(0, 0, 0);
-        for (int h : NO_HANDS) {
+        for (int h : Due.NO_HANDS) {
             due.is("hand " + h, desk.lack(h, 0, 0, 0), BAD);
         }
         for (int row : new int[] {-1, 4, 5, LEAST, GREATEST}) {
@@ -319,7 +322,7 @@ public final class EdgesOfChancesTest {
             due.is("d " + d, desk.odds(0, d), BAD);
             due.is("d " + d + " of an empty hand", desk.odds(1, d), BAD);
         }
-        for (int h : NO_HANDS) {
+        for (int h : Due.NO_HANDS) {
             due.is("hand " + h, desk.odds(h, 1), BAD);
             due.is("hand " + h, desk.odds(h, 2), BAD);
         }
@@ -369,7 +372,7 @@ public final class EdgesOfChancesTest {
     private static void unseenBad() {
         due.sentence("How many tiles a HAND has not SEEN. BAD.");
         TileDesk desk = new TileDesk();
-        for (int h : NO_HANDS) {
+        for (int h : Due.NO_HANDS) {
             due.is("hand " + h, desk.unseen(h), BAD);
         }
     }
@@ -451,6 +454,51 @@ public final class EdgesOfChancesTest {
         due.is("two threes, or a four and a pair", alike(new int[] {27, 27, 27, 28, 28, 28}, 29, 29, 29, 29, 30, 30), 0);
     }
 
+    /** How many sorts of row 3 there are three and four of, two of, and so on: all that it may be, with all others. */
+    private static void alikeOfAllThatRow3MayBe() {
+        due.sentence("and the SORTS of ROW 3 in another order, so that it is what the other HOLDS");
+        List<int[]> all = new ArrayList<>();
+        for (int fours = 0; fours <= 3; fours++) {
+            for (int threes = 0; threes <= 4; threes++) {
+                for (int twos = 0; twos <= 7; twos++) {
+                    for (int ones = 0; ones <= 7; ones++) {
+                        boolean sorts = fours + threes + twos + ones <= 7;
+                        if (sorts && 4 * fours + 3 * threes + 2 * twos + ones <= 14) {
+                            all.add(new int[] {ones, twos, threes, fours});
+                        }
+                    }
+                }
+            }
+        }
+        int compared = 0;
+        for (int[] one : all) {
+            for (int[] other : all) {
+                TileDesk desk = new TileDesk();
+                if (holdsRow3(desk, 0, one, 1) && holdsRow3(desk, 1, other, -1)) {
+                    compared++;
+                    due.is("alike", desk.alike(0, 1), one == other ? 1 : 0);
+                }
+            }
+        }
+        due.is("many were there", compared > 5000 ? 1 : 0, 1);
+    }
+
+    /** From sort 27 up, or from 33 down, ones, twos, threes, fours; false: the wall has not enough. */
+    private static boolean holdsRow3(TileDesk desk, int h, int[] times, int step) {
+        int sort = step > 0 ? 27 : 33;
+        for (int n = 1; n <= 4; n++) {
+            for (int k = 0; k < times[n - 1]; k++) {
+                for (int t = 0; t < n; t++) {
+                    if (desk.take(h, sort) < 0) {
+                        return false;
+                    }
+                }
+                sort += step;
+            }
+        }
+        return true;
+    }
+
     private static void alikeButForOne() {
         due.sentence("so that it is what the other HOLDS; 0. BAD.");
         due.is("four or three of a sort", alike(new int[] {0, 0, 0, 0}, 9, 9, 9), 0);
@@ -479,7 +527,7 @@ public final class EdgesOfChancesTest {
     private static void alikeBad() {
         due.sentence("so that it is what the other HOLDS; 0. BAD.");
         TileDesk desk = new TileDesk();
-        for (int none : NO_HANDS) {
+        for (int none : Due.NO_HANDS) {
             due.is("hand " + none, desk.alike(none, 0), BAD);
             due.is("and hand " + none, desk.alike(0, none), BAD);
             due.is("both", desk.alike(none, none), BAD);

@@ -3,8 +3,6 @@ public final class EdgesOfHandsTest {
     private static final Due due = new Due("EdgesOfHandsTest");
     private static final int BAD = Due.BAD, NO = Due.NO, NONE = Due.NONE, LEAST = Due.LEAST, GREATEST = Due.GREATEST;
     private static final int SEVEN = 0, OUTER = 1;
-    private static final int[] NO_HANDS = {-1, 4, 5, LEAST, GREATEST};
-    private static final int[] NO_SORTS = {-1, 34, 35, 99, LEAST, GREATEST};
     private static final int[] THIRTEEN = {0, 8, 9, 17, 18, 26, 27, 28, 29, 30, 31, 32, 33};
     private static final int[] NINE_GATES = {9, 9, 9, 10, 11, 12, 13, 14, 15, 16, 17, 17, 17};
     private static final int[] FAR = {1, 4, 7, 10, 13, 16, 19, 22, 25, 27, 28, 29, 30};
@@ -45,6 +43,7 @@ public final class EdgesOfHandsTest {
         moreEdges();
         moreStillSeen();
         bestEdges();
+        bestWhenNothingHelps();
         bestRefusals();
         due.end();
     }
@@ -258,7 +257,7 @@ public final class EdgesOfHandsTest {
     private static void doneBad() {
         due.sentence("BAD: a number is none that is told, there is no such thing.");
         TileDesk desk = with(NINE_GATES, 9);
-        for (int h : NO_HANDS) {
+        for (int h : Due.NO_HANDS) {
             due.is("done of hand " + h, desk.done(h), BAD);
             due.is("ways of hand " + h, desk.ways(h), BAD);
             due.is("way of hand " + h, desk.way(h, 0, 0), BAD);
@@ -652,7 +651,7 @@ public final class EdgesOfHandsTest {
         due.sentence("BAD; NO: it is not FULL, or HOLDS none.");
         TileDesk desk = with(NINE_GATES, 13);
         Due.hold(desk, 1, 0, 1, 2, 3, 4, 5, 6, 7, 8, 18, 19, 20, 21);
-        for (int sort : NO_SORTS) {
+        for (int sort : Due.NO_SORTS) {
             due.is("without " + sort, desk.without(0, sort), BAD);
             due.is("more, without " + sort, desk.more(0, sort), BAD);
             due.is("without " + sort + ", at rest", desk.without(1, sort), BAD);
@@ -728,6 +727,19 @@ public final class EdgesOfHandsTest {
         TileDesk outer = with(THIRTEEN, 5);
         outer.count(OUTER, true);
         due.is("outer ones", outer.best(0), 5);
+    }
+
+    private static void bestWhenNothingHelps() {
+        due.sentence("The SORT to throw: without which THE DISTANCE is least; of these by which most tiles HELP; of these the least.");
+        TileDesk desk = Due.laid(new int[] {208, 217, 226}, 0, 0, 0, 32, 33);
+        due.is("a single one", desk.best(0), 32);
+        Due.throwAway(desk, 1, 33, 33, 33);
+        due.is("nothing can come of 33", desk.best(0), 33);
+        Due.throwAway(desk, 1, 32, 32, 32);
+        due.is("nothing helps without 32", desk.more(0, 32), 0);
+        due.is("nothing helps without 33", desk.more(0, 33), 0);
+        due.is("farther without 0, but much helps", desk.without(0, 0), 1);
+        due.is("the distance all the same", desk.best(0), 32);
     }
 
     private static void bestRefusals() {

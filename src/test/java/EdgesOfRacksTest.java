@@ -5,7 +5,6 @@ public final class EdgesOfRacksTest {
     private static final int PLACE_BAD = -100000, PLACE_NULL = -100011, PLACE_INDEX = -100012;
     private static final int BYTES = 0, CHARS = 1, SHORTS = 2, MISSING = -1;
     private static final int[] NO_RACKS = {-1, 6, 7, LEAST, GREATEST};
-    private static final int[] NO_HANDS = {-1, 4, 5, LEAST, GREATEST};
 
     public static void main(String[] args) {
         aNewDesk();
@@ -492,7 +491,7 @@ public final class EdgesOfRacksTest {
     private static void readBad() {
         due.sentence("BAD; NULL; SIZE: n; INDEX; MANY; then, place by place, SORT, FIVE.");
         TileDesk desk = filled(0, BYTES, 3);
-        for (int h : NO_HANDS) {
+        for (int h : Due.NO_HANDS) {
             due.is("hand " + h, desk.read(h, 0, 0, 1), BAD);
             due.is("hand " + h + " and all else", desk.read(h, 1, -1, -1), BAD);
         }

@@ -6,8 +6,6 @@ public final class EdgesOfTilesTest {
     private static final Due due = new Due("EdgesOfTilesTest");
     private static final int BAD = Due.BAD, NO = Due.NO, NONE = Due.NONE, LEAST = Due.LEAST, GREATEST = Due.GREATEST;
     private static final int WALL = 0, THROWN = 1, HELD = 2, OPEN = 6;
-    private static final int[] NO_HANDS = {-1, 4, 5, LEAST, GREATEST};
-    private static final int[] NO_SORTS = {-1, 34, 35, 99, LEAST, GREATEST};
     private static final int[] FOURTEEN = {0, 1, 2, 3, 4, 5, 6, 7, 8, 9, 10, 11, 12, 13};
 
     public static void main(String[] args) {
@@ -167,10 +165,10 @@ public final class EdgesOfTilesTest {
     private static void takeBad() {
         due.sentence("BAD: a number is none that is told, there is no such thing.");
         TileDesk desk = new TileDesk();
-        for (int h : NO_HANDS) {
+        for (int h : Due.NO_HANDS) {
             due.is("hand " + h, desk.take(h, 0), BAD);
         }
-        for (int sort : NO_SORTS) {
+        for (int sort : Due.NO_SORTS) {
             due.is("sort " + sort, desk.take(0, sort), BAD);
         }
         due.is("the first sort", desk.take(3, 0), 1);
@@ -332,7 +330,7 @@ public final class EdgesOfTilesTest {
     private static void drawBad() {
         due.sentence("BAD; NO: it is FULL; NONE: THE WALL is empty.");
         TileDesk desk = new TileDesk();
-        for (int h : NO_HANDS) {
+        for (int h : Due.NO_HANDS) {
             due.is("hand " + h, desk.draw(h), BAD);
         }
         due.is("the seed was 1 still", desk.draw(3), 18);
@@ -437,10 +435,10 @@ public final class EdgesOfTilesTest {
     private static void discardBad() {
         due.sentence("A HAND throws a tile that it HOLDS: its SIZE. BAD; NO: it HOLDS none.");
         TileDesk desk = Due.holding(0, 33);
-        for (int h : NO_HANDS) {
+        for (int h : Due.NO_HANDS) {
             due.is("hand " + h, desk.discard(h, 0), BAD);
         }
-        for (int sort : NO_SORTS) {
+        for (int sort : Due.NO_SORTS) {
             due.is("sort " + sort, desk.discard(0, sort), BAD);
             due.is("sort " + sort + " of an empty hand", desk.discard(1, sort), BAD);
         }
@@ -545,7 +543,7 @@ public final class EdgesOfTilesTest {
     private static void openBad() {
         due.sentence("BAD: also a RUN that is none; NO: it HOLDS not all of them.");
         TileDesk desk = Due.holding(5, 5, 5, 5);
-        for (int h : NO_HANDS) {
+        for (int h : Due.NO_HANDS) {
             due.is("hand " + h, desk.open(h, 2, 5), BAD);
         }
         for (int kind : new int[] {-1, 0, 4, 5, LEAST, GREATEST}) {
@@ -553,7 +551,7 @@ public final class EdgesOfTilesTest {
             due.is("kind " + kind + " of none", desk.open(1, kind, 5), BAD);
         }
         for (int kind = 1; kind <= 3; kind++) {
-            for (int sort : NO_SORTS) {
+            for (int sort : Due.NO_SORTS) {
                 due.is("sort " + sort, desk.open(0, kind, sort), BAD);
             }
         }
@@ -600,7 +598,7 @@ public final class EdgesOfTilesTest {
     private static void clearBad() {
         due.sentence("All of a HAND goes back to THE WALL: how many tiles. BAD.");
         TileDesk desk = Due.holding(1);
-        for (int h : NO_HANDS) {
+        for (int h : Due.NO_HANDS) {
             due.is("hand " + h, desk.clear(h), BAD);
         }
         due.is("still held", desk.about(0, 1), 1);
@@ -639,7 +637,7 @@ public final class EdgesOfTilesTest {
     private static void tilesBad() {
         due.sentence("BAD: place 0 to 9.");
         TileDesk desk = new TileDesk();
-        for (int sort : NO_SORTS) {
+        for (int sort : Due.NO_SORTS) {
             for (int place : new int[] {0, 1, 2, 9, 10, -1}) {
                 due.is("sort " + sort + ", place " + place, desk.tiles(sort, place), BAD);
             }
@@ -675,7 +673,7 @@ public final class EdgesOfTilesTest {
         for (int what : new int[] {-1, 7, 8, LEAST, GREATEST}) {
             due.is("what " + what, desk.about(0, what), BAD);
         }
-        for (int h : NO_HANDS) {
+        for (int h : Due.NO_HANDS) {
             for (int what = 0; what < 7; what++) {
                 due.is("hand " + h, desk.about(h, what), BAD);
             }

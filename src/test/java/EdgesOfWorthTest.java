@@ -4,7 +4,6 @@ public final class EdgesOfWorthTest {
     private static final int BAD = Due.BAD, NO = Due.NO, FULL = Due.FULL, LEAST = Due.LEAST, GREATEST = Due.GREATEST;
     private static final int SEVEN = 0, OUTER = 1, NOTHING_OUT = -1;
     private static final int[] NONE_LAID = {};
-    private static final int[] NO_HANDS = {-1, 4, 5, LEAST, GREATEST};
     private static final int[] OUTER_ONES = {0, 8, 9, 17, 18, 26, 27, 28, 29, 30, 31, 32, 33, 33};
     private static final int[] PAIRS = {1, 1, 4, 4, 7, 7, 10, 10, 13, 13, 16, 16, 33, 33};
     /** By its first way three threes, by its second one runs: 5 holds of both, 7 of the first, 0 and 6 of the second. */
@@ -290,7 +289,7 @@ public final class EdgesOfWorthTest {
         desk.discard(0, 33);
         Due.hold(desk, 0, 32);
         due.is("full, but not done", desk.worth(0), NO);
-        for (int h : NO_HANDS) {
+        for (int h : Due.NO_HANDS) {
             due.is("worth of hand " + h, desk.worth(h), BAD);
             due.is("by of hand " + h, desk.by(h), BAD);
         }
@@ -508,7 +507,7 @@ public final class EdgesOfWorthTest {
             due.is("condition " + condition, desk.holds(0, condition), BAD);
             due.is("condition " + condition + ", not done", desk.holds(1, condition), BAD);
         }
-        for (int h : NO_HANDS) {
+        for (int h : Due.NO_HANDS) {
             due.is("hand " + h, desk.holds(h, 5), BAD);
         }
         due.is("condition 0", desk.holds(0, 0), 0);

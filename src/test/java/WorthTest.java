@@ -167,28 +167,19 @@ public final class WorthTest {
         hold("by the second way", both, 0, 2, 3, 5, 6);
     }
 
-    private static TileDesk laid(int[] codes, int... held) {
-        TileDesk desk = new TileDesk();
-        for (int code : codes) {
-            Due.lay(desk, 0, code);
-        }
-        Due.hold(desk, 0, held);
-        return desk;
-    }
-
     private static void promise34OfOpenOnes() {
-        hold("an open run", laid(new int[] {110}, 1, 2, 3, 13, 14, 15, 20, 21, 22, 4, 4), 0);
-        hold("an open run the same", laid(new int[] {101}, 1, 2, 3, 13, 14, 15, 20, 21, 22, 4, 4), 0, 6);
-        hold("both open", laid(new int[] {101, 113, 101}, 20, 21, 22, 4, 4), 0, 6);
-        hold("an open three", laid(new int[] {201}, 12, 12, 12, 22, 22, 22, 4, 4, 4, 6, 6), 1, 7);
-        hold("two open threes", laid(new int[] {201, 212}, 22, 22, 22, 4, 4, 4, 6, 6), 1);
-        hold("an open four", laid(new int[] {301}, 12, 12, 12, 22, 22, 22, 4, 4, 4, 6, 6), 1, 7);
-        hold("an open four and a run", laid(new int[] {301}, 12, 12, 12, 22, 22, 22, 3, 4, 5, 6, 6));
-        hold("two open fours", laid(new int[] {301, 312}, 22, 22, 22, 4, 4, 4, 6, 6), 1);
-        hold("all open, outer", laid(new int[] {300, 106, 217, 333}, 9, 9), 2, 3);
-        hold("all open, not outer", laid(new int[] {300, 105, 217, 333}, 9, 9), 2);
-        hold("an open four of the row", laid(new int[] {301}, 3, 3, 3, 4, 5, 6, 4, 5, 6, 7, 7), 4, 6);
-        hold("an open four of another row", laid(new int[] {313}, 3, 3, 3, 4, 5, 6, 4, 5, 6, 7, 7), 6);
+        hold("an open run", Due.laid(new int[] {110}, 1, 2, 3, 13, 14, 15, 20, 21, 22, 4, 4), 0);
+        hold("an open run the same", Due.laid(new int[] {101}, 1, 2, 3, 13, 14, 15, 20, 21, 22, 4, 4), 0, 6);
+        hold("both open", Due.laid(new int[] {101, 113, 101}, 20, 21, 22, 4, 4), 0, 6);
+        hold("an open three", Due.laid(new int[] {201}, 12, 12, 12, 22, 22, 22, 4, 4, 4, 6, 6), 1, 7);
+        hold("two open threes", Due.laid(new int[] {201, 212}, 22, 22, 22, 4, 4, 4, 6, 6), 1);
+        hold("an open four", Due.laid(new int[] {301}, 12, 12, 12, 22, 22, 22, 4, 4, 4, 6, 6), 1, 7);
+        hold("an open four and a run", Due.laid(new int[] {301}, 12, 12, 12, 22, 22, 22, 3, 4, 5, 6, 6));
+        hold("two open fours", Due.laid(new int[] {301, 312}, 22, 22, 22, 4, 4, 4, 6, 6), 1);
+        hold("all open, outer", Due.laid(new int[] {300, 106, 217, 333}, 9, 9), 2, 3);
+        hold("all open, not outer", Due.laid(new int[] {300, 105, 217, 333}, 9, 9), 2);
+        hold("an open four of the row", Due.laid(new int[] {301}, 3, 3, 3, 4, 5, 6, 4, 5, 6, 7, 7), 4, 6);
+        hold("an open four of another row", Due.laid(new int[] {313}, 3, 3, 3, 4, 5, 6, 4, 5, 6, 7, 7), 6);
     }
 
     private static void promise34OfOthers() {

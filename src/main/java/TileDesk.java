@@ -1014,7 +1014,8 @@ public final class TileDesk {
     /**
      * The lack of a hand, and which sorts make it less. Each row is worked out by itself: for g groups and p pairs (a
      * lane, 2 g + p) the fewest tiles that are to come, and the sorts of those that may be among them. Then the lanes
-     * of the rows are added up. A lane's value is a number: the tiles above, a bit for each of the sorts below.
+     * of the rows are added up, those of one row last, so that this row may change and the sums of the others stand.
+     * A lane's value is a number: the tiles above, a bit for each of the sorts below.
      */
     private static final class Lacks {
         static final int NO_LIMIT = 14;
@@ -1036,6 +1037,8 @@ public final class TileDesk {
         private final long[] keptLanes = new long[KEPT * LANES];
         private int limit = NO_LIMIT;
         private int wanted = 0;
+        /** The row that is not among the sums; total() adds it. */
+        private int lastRow = Sorts.LAST_ROW;
         /** What total() found last; a lack above the limit is not told. */
         int lack = 0;
         private long helpers = 0;
@@ -1051,13 +1054,18 @@ public final class TileDesk {
             for (int row = 0; row < Sorts.ROWS; row++) {
                 workOut(row);
             }
+            addAllBut(Sorts.LAST_ROW);
             total();
         }
 
         /** One tile more or less of a sort; total() tells the lack then. */
         void change(int sort, int by) {
+            int row = Sorts.rowOf(sort);
             held[sort] += by;
-            workOut(Sorts.rowOf(sort));
+            workOut(row);
+            if (row != lastRow) {
+                addAllBut(row);
+            }
         }
 
         int ofRow(Hand hand, int row, int g, int p) {
@@ -1074,14 +1082,9 @@ public final class TileDesk {
             limit = most;
         }
 
-        /** Adds the rows up, and takes the other hands that count into account. */
+        /** Adds the last row to the others, and takes the other hands that count into account. */
         void total() {
-            Arrays.fill(sums, NOWHERE);
-            sums[0] = 0;
-            for (int row = 0; row < Sorts.ROWS; row++) {
-                addRow(row);
-            }
-            long found = sums[2 * wanted + 1];
+            long found = leastWith(lastRow, 2 * wanted + 1);
             lack = UNREACHED;
             helpers = 0;
             if (found != NOWHERE) {
@@ -1137,29 +1140,45 @@ public final class TileDesk {
             return (int) (value >> SORT_BITS);
         }
 
-        /** Of values alike in tiles the sorts of both may be among these. */
-        private void merge(long[] into, int at, long value) {
-            long more = (value >> SORT_BITS) - (into[at] >> SORT_BITS);
-            if (value >> SORT_BITS <= limit && more <= 0) {
-                into[at] = more < 0 ? value : into[at] | value;
+        /** The one with fewer tiles; of values alike in tiles the sorts of both may be among these. */
+        private long less(long one, long other) {
+            long more = (other >> SORT_BITS) - (one >> SORT_BITS);
+            if (more > 0 || other >> SORT_BITS > limit) {
+                return one;
+            }
+            return more < 0 ? other : one | other;
+        }
+
+        private void addAllBut(int last) {
+            lastRow = last;
+            Arrays.fill(sums, NOWHERE);
+            sums[0] = 0;
+            for (int row = 0; row < Sorts.ROWS; row++) {
+                if (row != last) {
+                    addRow(row);
+                }
             }
         }
 
-        /** Goes from the highest lane down, as each is made of itself and of lower ones (lane 0 adds nothing). */
+        /** Goes from the highest lane down, as each is made of itself and of lower ones. */
         private void addRow(int row) {
-            int top = 2 * wanted + 1;
-            // Behind the last row none but the lane that is wanted is asked for.
-            int lowest = row == Sorts.LAST_ROW ? top : 0;
-            for (int to = top; to >= lowest; to--) {
-                for (int lane = 1; lane <= to; lane++) {
-                    boolean twoPairs = (to - lane & lane & 1) == 1;
-                    if (!twoPairs) {
-                        long value = lanes[row * LANES + lane];
-                        long sorts = (value & SORT_MASK) << ROW_BITS * row;
-                        merge(sums, to, sums[to - lane] + (value & ~SORT_MASK) + sorts);
-                    }
+            for (int to = 2 * wanted + 1; to > 0; to--) {
+                sums[to] = leastWith(row, to);
+            }
+        }
+
+        /** What a lane of the sums becomes with a row added; its lane 0 adds nothing. */
+        private long leastWith(int row, int to) {
+            long least = sums[to];
+            for (int lane = 1; lane <= to; lane++) {
+                long value = lanes[row * LANES + lane];
+                boolean twoPairs = (to - lane & lane & 1) == 1;
+                if (value != NOWHERE && !twoPairs) {
+                    long sorts = (value & SORT_MASK) << ROW_BITS * row;
+                    least = less(least, sums[to - lane] + (value & ~SORT_MASK) + sorts);
                 }
             }
+            return least;
         }
 
         private void workOut(int row) {
@@ -1215,7 +1234,8 @@ public final class TileDesk {
                     if (use <= room && to < LANES && !twoPairs) {
                         int come = Math.max(0, use - held[sort]);
                         long bit = come > 0 ? 1L << sort % Sorts.ROW_LENGTH : 0;
-                        merge(next, (3 * runs + shape / 3) * LANES + to, value + ((long) come << SORT_BITS) | bit);
+                        int at = (3 * runs + shape / 3) * LANES + to;
+                        next[at] = less(next[at], value + ((long) come << SORT_BITS) | bit);
                     }
                 }
             }

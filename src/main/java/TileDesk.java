@@ -1037,8 +1037,8 @@ public final class TileDesk {
         private final long[] keptLanes = new long[KEPT * LANES];
         private int limit = NO_LIMIT;
         private int wanted = 0;
-        /** The row that is not among the sums; total() adds it. */
-        private int lastRow = Sorts.LAST_ROW;
+        /** The row that may change: it is not among the sums, and total() adds it. */
+        private int changing = Sorts.LAST_ROW;
         /** What total() found last; a lack above the limit is not told. */
         int lack = 0;
         private long helpers = 0;
@@ -1063,7 +1063,7 @@ public final class TileDesk {
             int row = Sorts.rowOf(sort);
             held[sort] += by;
             workOut(row);
-            if (row != lastRow) {
+            if (row != changing) {
                 addAllBut(row);
             }
         }
@@ -1082,9 +1082,9 @@ public final class TileDesk {
             limit = most;
         }
 
-        /** Adds the last row to the others, and takes the other hands that count into account. */
+        /** Adds the row that may change to the others, and takes the other hands that count into account. */
         void total() {
-            long found = leastWith(lastRow, 2 * wanted + 1);
+            long found = leastWith(changing, 2 * wanted + 1);
             lack = UNREACHED;
             helpers = 0;
             if (found != NOWHERE) {
@@ -1149,12 +1149,12 @@ public final class TileDesk {
             return more < 0 ? other : one | other;
         }
 
-        private void addAllBut(int last) {
-            lastRow = last;
+        private void addAllBut(int changingRow) {
+            changing = changingRow;
             Arrays.fill(sums, NOWHERE);
             sums[0] = 0;
             for (int row = 0; row < Sorts.ROWS; row++) {
-                if (row != last) {
+                if (row != changingRow) {
                     addRow(row);
                 }
             }
